@@ -18,6 +18,10 @@ public final class GatherTest {
         keptOfOthersIsApplied();
         tableComesFromForemost();
         keptIsForgotten();
+        doneBeginsAnew();
+        onlyOfVotedRingIsKept();
+        newTokenKnowsNothing();
+        nothingIsRequestedAnew();
         pendingStays();
         restOfOldRing();
         wrongCalls();
@@ -162,8 +166,43 @@ public final class GatherTest {
         group.gather(3);
         checks.due("not primary", group.primary(3), false);
         checks.due("3 applied it before the transition", Scene.log(group, 3), "r31@1 m1.0.7.70@1 t24@1 r24@2");
+        RingGroup least = Scene.ring(3, 1);
+        least.send(0, 7, 70, true);
+        Scene.passes(least, 0, 1, 2, 0);
+        least.part(2, 1);
+        least.gather(1);
+        checks.due("1 learnt it of 0", Scene.log(least, 1), "r7@1 m1.0.7.70@1 t3@1 r3@2");
         checks.due("the table of 3", group.table(3, 7), 70);
         checks.due("APPLIED of 3", group.about(3, Scene.APPLIED), 1);
+    }
+
+    private static void newTokenKnowsNothing() {
+        RingGroup group = Scene.ring(3, 2);
+        Scene.sends(group, 0, 0, 1, false, 2);
+        group.pass(0, 0b010);
+        Scene.passes(group, 1, 2, 0);
+        group.part(1, 1);
+        group.gather(1);
+        group.part(1, 0);
+        checks.due("all anew", group.gather(0), 3);
+        Scene.sends(group, 0, 1, 1, true, 2);
+        checks.due("nobody's FULL is known yet", group.pass(0, 0b010), 0);
+        checks.due("SAFE_TO", group.about(0, Scene.SAFE_TO), 0);
+    }
+
+    private static void nothingIsRequestedAnew() {
+        RingGroup group = Scene.ring(3, 1);
+        group.send(0, 0, 1, false);
+        group.pass(0, 0b110);
+        group.pass(1, 0);
+        group.part(2, 1);
+        group.gather(2);
+        group.part(2, 0);
+        checks.due("all anew", group.gather(0), 3);
+        group.send(0, 0, 2, false);
+        group.pass(0, 0b100);
+        group.pass(1, 0);
+        checks.due("place 1 was requested of the old token alone", group.about(2, Scene.FULL), 0);
     }
 
     private static void twoRingsMeet() {
@@ -298,6 +337,46 @@ public final class GatherTest {
         group.restart(0);
         group.gather(0);
         checks.due("and is kept in a crash", group.about(0, Scene.APPLIED), 2);
+    }
+
+    private static void doneBeginsAnew() {
+        RingGroup group = Scene.ring(3, 1);
+        group.send(0, 1, 1, true);
+        Scene.passes(group, 0, 1, 2, 0, 1);
+        group.crash(2);
+        group.gather(0);
+        group.send(0, 2, 2, true);
+        group.pass(0, 0);
+        checks.due("not known to be safe", group.about(0, Scene.APPLIED), 1);
+        group.crash(0);
+        group.crash(1);
+        group.restart(0);
+        group.restart(1);
+        group.gather(1);
+        checks.due("place 1 of the later ring is not done", group.about(0, Scene.APPLIED), 2);
+        checks.due("nor lost", group.table(1, 2), 2);
+        group.crash(0);
+        group.crash(1);
+        group.restart(0);
+        group.restart(1);
+        group.gather(1);
+        checks.due("what was kept before is forgotten", group.about(0, Scene.APPLIED), 2);
+    }
+
+    private static void onlyOfVotedRingIsKept() {
+        RingGroup group = Scene.ring(5, 1);
+        group.part(0, 1);
+        group.part(1, 1);
+        group.gather(0);
+        checks.due("two of five", group.primary(0), false);
+        group.send(0, 4, 44, true);
+        Scene.passes(group, 0, 1, 0, 1);
+        checks.due("delivered", group.about(0, Scene.DELIVERED), 1);
+        group.part(2, 1);
+        group.gather(2);
+        checks.due("three of five", group.primary(0), true);
+        checks.due("not kept", group.table(0, 4), 0);
+        checks.due("not applied", group.about(2, Scene.APPLIED), 0);
     }
 
     private static void pendingStays() {

@@ -9,6 +9,7 @@ public final class PassTest {
         missesAndRequests();
         requestsLeastFirstByWhoHas();
         resendMissedAgain();
+        requestedNoMore();
         bitsOfNobody();
         hundredPlaces();
         tokenGoesOn();
@@ -101,6 +102,20 @@ public final class PassTest {
         checks.due("2 sent it", group.about(1, Scene.FULL), 1);
         checks.due("the token's FULL of 1 is still 0", group.pass(0, 0), 0);
         checks.due("1 tells the token", group.pass(1, 0), 1);
+    }
+
+    private static void requestedNoMore() {
+        RingGroup group = Scene.ring(4, 1);
+        group.send(0, 0, 1, false);
+        group.pass(0, 0b1000);
+        Scene.passes(group, 1, 2, 3);
+        group.pass(0, 0b1000);
+        group.pass(1, 0);
+        group.pass(2, 0);
+        checks.due("sent again once, though 3 missed it", group.about(3, Scene.FULL), 0);
+        group.pass(3, 0);
+        group.pass(0, 0);
+        checks.due("3 asked again", group.about(3, Scene.FULL), 1);
     }
 
     private static void bitsOfNobody() {
