@@ -5,6 +5,7 @@ final class Checks {
     }
 
     private final String test;
+    private String words = "";
     private int made;
     private int wrong;
 
@@ -12,12 +13,17 @@ final class Checks {
         this.test = test;
     }
 
+    /** What is found wrong from now on is told with these words of the document. */
+    void by(String documentWords) {
+        words = " \"" + documentWords + "\":";
+    }
+
+    int made() {
+        return made;
+    }
+
     void due(String what, long got, long want) {
-        made++;
-        if (got != want) {
-            wrong++;
-            System.out.println(test + ": " + what + " answered " + got + ", due is " + want);
-        }
+        due(what, Long.toString(got), Long.toString(want));
     }
 
     void due(String what, boolean got, boolean want) {
@@ -28,7 +34,7 @@ final class Checks {
         made++;
         if (!got.equals(want)) {
             wrong++;
-            System.out.println(test + ": " + what + " answered " + got + ", due is " + want);
+            System.out.println(test + ":" + words + " " + what + " answered " + got + ", due is " + want);
         }
     }
 

@@ -26,6 +26,30 @@ final class Scene {
         }
     }
 
+    /** The node goes to a group and gathers there; answers what gather does. */
+    static int goes(RingGroup group, int node, int to) {
+        group.part(node, to);
+        return group.gather(node);
+    }
+
+    /** All of these nodes crash, and then restart: what they know of rings but not KEEP is gone. */
+    static void reborn(RingGroup group, int... nodes) {
+        for (int node : nodes) {
+            group.crash(node);
+        }
+        for (int node : nodes) {
+            group.restart(node);
+        }
+    }
+
+    /** In a ring of nodes 0 and 1, 0 holding: so many places more are given, at most 8 a pass. */
+    static void fill(RingGroup group, int places, boolean safe) {
+        for (int left = places; left > 0; left -= 8) {
+            sends(group, 0, left % 16, left, safe, Math.min(8, left));
+            passes(group, 0, 1);
+        }
+    }
+
     /** The log as a text: m place.sender.key.value@ring, t members@ring, r members@ring. */
     static String log(RingGroup group, int node) {
         StringBuilder text = new StringBuilder();
