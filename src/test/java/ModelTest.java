@@ -1,32 +1,25 @@
 import java.util.function.LongSupplier;
 
-/**
- * Long runs of calls on RingGroup and on the Model, drawn from a row of numbers that is the same each
- * time: every answer, and behind every call every node, must be the same in both.
- */
-public final class ModelTest {
+/** Long runs of calls on RingGroup and on the Model: every answer, and every node, must be the same in both. */
+public final class ModelTest implements Draws.Calls {
     private static final int RUNS = 1500;
     private static final int CALLS = 512;
     private static final Checks checks = new Checks("ModelTest");
 
-    private long drawn;
+    private final Draws draws;
     private final RingGroup group;
     private final Model model;
     private final int nodes;
-    private final int unrest;
-    private final int loss;
     private final boolean all;
+    private String wrong = "";
 
     private ModelTest(int run) {
-        drawn = run * 0x9E3779B97F4A7C15L + 1;
-        int asked = draw(10);
-        int window = draw(10);
+        draws = new Draws(run);
+        int asked = draws.draw(10);
+        int window = draws.draw(10);
         group = new RingGroup(asked, window);
         model = new Model(asked, window);
         nodes = model.nodes.size();
-        // Some runs are calm, so that rings grow old; in some nearly every call changes who hears whom.
-        unrest = new int[] {2, 6, 15, 40, 70}[run % 5];
-        loss = new int[] {0, 20, 60}[run % 3];
         all = run % 2 == 0;
     }
 
@@ -41,14 +34,13 @@ public final class ModelTest {
         checks.end();
     }
 
-    private int draw(int bound) {
-        drawn = drawn * 6364136223846793005L + 1442695040888963407L;
-        return (int) ((drawn >>> 33) % bound);
-    }
-
     private String play() {
         for (int call = 0; call < CALLS; call++) {
-            String wrong = call == 0 && all ? gather(0) : step();
+            if (call == 0 && all) {
+                gather(0);
+            } else {
+                draws.call(this, nodes);
+            }
             if (wrong.isEmpty() && (call % 16 == 15 || call < 40)) {
                 wrong = differing();
             }
@@ -59,64 +51,26 @@ public final class ModelTest {
         return differing();
     }
 
-    private String step() {
-        int node = draw(nodes);
-        int kind = draw(100);
-        if (draw(40) == 0) {
-            node = draw(nodes + 2) - 1;
-        }
-        if (kind < unrest) {
-            return unrest(node, draw(10));
-        }
-        if (draw(100) < 45) {
-            int key = draw(50) == 0 ? draw(20) - 2 : draw(16);
-            return send(node, key, draw(1 << 30) * (long) draw(1 << 30) - draw(1000), draw(3) != 0);
-        }
-        int holder = holderBehind(draw(nodes));
-        int misses = draw(100) < loss ? draw(256) : 0;
-        return draw(30) == 0 || holder < 0 ? gatherOrPass(node, misses) : pass(holder, misses);
-    }
-
-    private String gatherOrPass(int node, int misses) {
-        return draw(3) == 0 ? pass(node, misses) : gather(node);
-    }
-
-    private int holderBehind(int node) {
-        for (int step = 0; step < nodes; step++) {
-            int asked = (node + step) % nodes;
-            if (model.about(asked, 12) == 1) {
-                return asked;
-            }
-        }
-        return -1;
-    }
-
-    private String unrest(int node, int kind) {
-        if (kind < 3) {
-            return part(node, draw(20) == 0 ? draw(12) - 2 : draw(2));
-        }
-        if (kind < 4) {
-            return crash(node);
-        }
-        return kind < 6 ? restart(node) : gather(node);
-    }
-
-    private String send(int node, int key, long value, boolean safe) {
-        return same("send(" + node + ", " + key + ", " + value + ", " + safe + ")",
+    @Override
+    public void send(int node, int key, long value, boolean safe) {
+        wrong = same("send(" + node + ", " + key + ", " + value + ", " + safe + ")",
                 () -> group.send(node, key, value, safe), () -> model.send(node, key, value, safe));
     }
 
-    private String pass(int node, int misses) {
-        return same("pass(" + node + ", " + misses + ")",
+    @Override
+    public void pass(int node, int misses) {
+        wrong = same("pass(" + node + ", " + misses + ")",
                 () -> group.pass(node, misses), () -> model.pass(node, misses));
     }
 
-    private String gather(int node) {
-        return same("gather(" + node + ")", () -> group.gather(node), () -> model.gather(node));
+    @Override
+    public void gather(int node) {
+        wrong = same("gather(" + node + ")", () -> group.gather(node), () -> model.gather(node));
     }
 
-    private String part(int node, int to) {
-        return same("part(" + node + ", " + to + ")", () -> {
+    @Override
+    public void part(int node, int to) {
+        wrong = same("part(" + node + ", " + to + ")", () -> {
             group.part(node, to);
             return 0;
         }, () -> {
@@ -125,8 +79,9 @@ public final class ModelTest {
         });
     }
 
-    private String crash(int node) {
-        return same("crash(" + node + ")", () -> {
+    @Override
+    public void crash(int node) {
+        wrong = same("crash(" + node + ")", () -> {
             group.crash(node);
             return 0;
         }, () -> {
@@ -135,14 +90,20 @@ public final class ModelTest {
         });
     }
 
-    private String restart(int node) {
-        return same("restart(" + node + ")", () -> {
+    @Override
+    public void restart(int node) {
+        wrong = same("restart(" + node + ")", () -> {
             group.restart(node);
             return 0;
         }, () -> {
             model.restart(node);
             return 0;
         });
+    }
+
+    @Override
+    public boolean holds(int node) {
+        return model.about(node, Scene.HOLDS) == 1;
     }
 
     private String differing() {
